@@ -1,6 +1,8 @@
 /**
  * Scripts marked by some of a few markers: how hard each marker is and what each script is worth,
- * exactly. The document's promises are told in README.md; a cell is 4 times a script and a marker.
+ * exactly, as of any time. What each call promises is told in the document, ../shared/DOC.md.
+ *
+ * A cell is the place of a mark: 4 times its script and its marker. Sets of markers are bits of an int.
  */
 public final class MarkedHands {
     public static final int NONE = -1, BAD = -2, NOT = -3, FULL = -4;
@@ -10,7 +12,7 @@ public final class MarkedHands {
     private static final int CELLS = 48;
     private static final int TOP_MARK = 100;
     private static final int TOP_PRICE = 99;
-    private static final int TOP_TENTHS = 1000;
+    private static final int TOP_SHIFT = 1000;
     private static final int TOP_TIME = 999;
     private static final int TOP_DEALT = 7;
 
@@ -188,7 +190,7 @@ public final class MarkedHands {
         if (laws.faultAt != NONE || now.hands[script] == 0) {
             return NOT;
         }
-        return laws.letterFor(now.worths[script], now.below(), 0);
+        return gradeWith(script, 0);
     }
 
     public int hangs(int script) {
@@ -201,7 +203,7 @@ public final class MarkedHands {
     }
 
     public int misses(int bundle, int tenths) {
-        if (!isMarker(bundle) || tenths < -TOP_TENTHS || tenths > TOP_TENTHS) {
+        if (!isMarker(bundle) || tenths < -TOP_SHIFT || tenths > TOP_SHIFT) {
             return BAD;
         }
         settle();
@@ -210,8 +212,7 @@ public final class MarkedHands {
         }
         int others = 0;
         for (int s = 0; s < SCRIPTS; s++) {
-            if (now.scriptBundle[s] == bundle
-                    && laws.letterFor(now.worths[s], now.below(), tenths) != laws.letterFor(now.worths[s], now.below(), 0)) {
+            if (now.scriptBundle[s] == bundle && gradeWith(s, tenths) != gradeWith(s, 0)) {
                 others++;
             }
         }
@@ -228,7 +229,7 @@ public final class MarkedHands {
         if (!now.areTied(a, b)) {
             return asLong(NOT);
         }
-        return side(now.doubtOf(now.hands[a], now.hands[b]), now.below(), what);
+        return side(now.doubtOf(a, b), now.below(), what);
     }
 
     public long worst(int what) {
@@ -488,6 +489,10 @@ public final class MarkedHands {
         return -10 - number;
     }
 
+    private int gradeWith(int script, int tenths) {
+        return laws.letterFor(now.worths[script], now.below(), tenths);
+    }
+
     private boolean isAhead(int s, int script, int how) {
         if (how == 0) {
             return now.worths[s] > now.worths[script];
@@ -626,11 +631,12 @@ public final class MarkedHands {
      * Marks, what hangs together by them, and the exact least squares over them.
      *
      * A script's worth is the mean of its marks, each with its marker's hardness added. With that the
-     * scripts fall out, and what is left are equations for the hardness of the markers alone. A bundle's
-     * least marker has hardness 0 and none but markers 1 to 3 can be another than the least, so three
-     * equations are enough for all bundles at once (that of a marker without one says 1 times it is 0).
-     * They are taken TWELVE times, since 12 goes by each number of marks that a script can have; then all
-     * numbers are whole over one divisor, below().
+     * scripts fall out, and equations for the hardness of the markers alone are left. A bundle's least
+     * marker has hardness 0, and only markers 1 to 3 can be another than the least: three equations are
+     * enough for all bundles at once (a marker that needs none has one that says it is 0). They are taken
+     * TWELVE times, since each number of marks that a script can have goes into 12; then all numbers are
+     * whole over one divisor, below(), and none of them comes near what a long holds (whole stays below
+     * 108 times 108 times 108).
      */
     private static final class Balance {
         static final int TWELVE = 12;
@@ -638,6 +644,7 @@ public final class MarkedHands {
 
         final int[] cells = new int[CELLS];
         final int[] hands = new int[SCRIPTS];
+        final long[] shares = new long[SCRIPTS];
         final int[] reach = new int[MARKERS];
         final int[] markerBundle = new int[MARKERS];
         final int[] scriptBundle = new int[SCRIPTS];
@@ -683,6 +690,8 @@ public final class MarkedHands {
                     }
                 }
                 hands[s] = bits;
+                int n = Integer.bitCount(bits);
+                shares[s] = n > 0 ? TWELVE / n : 0;
             }
         }
 
@@ -727,10 +736,10 @@ public final class MarkedHands {
             }
             for (int s = 0; s < SCRIPTS; s++) {
                 for (int i = 0; i < ROWS; i++) {
-                    if ((hands[s] & free & 2 << i) != 0) {
+                    if (isIn(s, i)) {
                         rows[ROWS * i + i] += TWELVE;
                         for (int j = 0; j < ROWS; j++) {
-                            rows[ROWS * i + j] -= push(hands[s], j);
+                            rows[ROWS * i + j] -= push(s, j);
                         }
                     }
                 }
@@ -741,14 +750,13 @@ public final class MarkedHands {
             return (free >> marker & 1) != 0;
         }
 
-        /** What a script gives of twelve to the equation of row i. */
-        private long push(int bits, int i) {
-            return (bits & free & 2 << i) != 0 ? share(bits) : 0;
+        /** What of twelve a script gives to the equation of row i, which is marker i + 1's. */
+        private long push(int script, int i) {
+            return isIn(script, i) ? shares[script] : 0;
         }
 
-        private static long share(int bits) {
-            int n = Integer.bitCount(bits);
-            return n > 0 ? TWELVE / n : 0;
+        private boolean isIn(int script, int i) {
+            return (hands[script] & free & 2 << i) != 0;
         }
 
         private void invert() {
@@ -785,7 +793,7 @@ public final class MarkedHands {
                 for (int m = 0; m < MARKERS; m++) {
                     sum += (hands[s] >> m & 1) != 0 ? hardness[m] : 0;
                 }
-                worths[s] = share(hands[s]) * sum;
+                worths[s] = shares[s] * sum;
             }
         }
 
@@ -793,8 +801,8 @@ public final class MarkedHands {
             for (int i = 0; i < ROWS; i++) {
                 pull[i] = 0;
                 for (int s = 0; s < SCRIPTS; s++) {
-                    if ((hands[s] & free & 2 << i) != 0) {
-                        pull[i] += share(hands[s]) * sumOf(s) - TWELVE * cells[MARKERS * s + i + 1];
+                    if (isIn(s, i)) {
+                        pull[i] += shares[s] * sumOf(s) - TWELVE * cells[MARKERS * s + i + 1];
                     }
                 }
             }
@@ -829,15 +837,15 @@ public final class MarkedHands {
         }
 
         /**
-         * Over below(). A script passes what flows into it on to its markers in like shares: its own
-         * ways in one bundle beside each other, and then the way through the equations of the markers.
+         * Over below(). What flows into a script goes on to its markers in like shares, so its own marks
+         * are one resistance of 1 by their number; the rest is what the markers' equations make of it.
          */
-        long doubtOf(int handsA, int handsB) {
-            long sum = whole * (share(handsA) + share(handsB));
+        long doubtOf(int a, int b) {
+            long sum = whole * (shares[a] + shares[b]);
             for (int i = 0; i < ROWS; i++) {
-                long flow = push(handsA, i) - push(handsB, i);
+                long flow = push(a, i) - push(b, i);
                 for (int j = 0; flow != 0 && j < ROWS; j++) {
-                    sum += flow * adjugate[ROWS * i + j] * (push(handsA, j) - push(handsB, j));
+                    sum += flow * adjugate[ROWS * i + j] * (push(a, j) - push(b, j));
                 }
             }
             return sum;
@@ -853,8 +861,9 @@ public final class MarkedHands {
             worstSecond = NONE;
             for (int a = 0; a < SCRIPTS; a++) {
                 for (int b = a + 1; b < SCRIPTS; b++) {
-                    if (areTied(a, b) && doubtOf(hands[a], hands[b]) > worstDoubt) {
-                        worstDoubt = doubtOf(hands[a], hands[b]);
+                    long doubt = areTied(a, b) ? doubtOf(a, b) : 0;
+                    if (doubt > worstDoubt) {
+                        worstDoubt = doubt;
                         worstFirst = a;
                         worstSecond = b;
                     }
@@ -1098,7 +1107,8 @@ public final class MarkedHands {
     private static final class Laws {
         static final int MOST_BYTES = 60;
         static final int LETTERS = 6;
-        static final int TOP_FIGURES = 3;
+        static final int MOST_FIGURES = 3;
+        static final int TOP_TENTHS = 1000;
 
         final int[] text = new int[MOST_BYTES];
         final int[] letters = new int[LETTERS];
@@ -1172,7 +1182,7 @@ public final class MarkedHands {
         private int lookAtNumber() {
             int start = at;
             int tenths = 0;
-            for (int i = 0; i < TOP_FIGURES && isFigure(at); i++) {
+            for (int i = 0; i < MOST_FIGURES && isFigure(at); i++) {
                 tenths = 10 * tenths + 10 * (byteAt(at) - '0');
                 at++;
             }
