@@ -7,7 +7,9 @@ import java.nio.file.Files;
 import java.nio.file.Path;
 import java.util.ArrayList;
 import java.util.Arrays;
+import java.util.Comparator;
 import java.util.List;
+import java.util.Random;
 import java.util.Set;
 import java.util.TreeSet;
 import java.util.regex.Matcher;
@@ -17,6 +19,9 @@ import java.util.regex.Pattern;
 public final class LanguageTest {
     private static final Path SOURCE = Path.of("src/main/java/MarkedHands.java");
     private static final Path DOCUMENT = Path.of("../shared/DOC.md");
+    private static final Method[] FACE = Arrays.stream(MarkedHands.class.getDeclaredMethods())
+        .filter(m -> Modifier.isPublic(m.getModifiers())).sorted(Comparator.comparing(Method::getName))
+        .toArray(Method[]::new);
     private static int wrong = 0;
 
     public static void main(String[] args) throws IOException {
@@ -28,6 +33,7 @@ public final class LanguageTest {
         loops(source);
         lengths(source);
         room();
+        neverThrows();
         System.out.println(wrong == 0 ? "the class keeps to the language" : wrong + " rules are broken");
         if (wrong != 0) {
             System.exit(1);
@@ -111,7 +117,8 @@ public final class LanguageTest {
         }
         check(!source.contains("->") && !source.contains("::"), "rule 2: a lambda or a method reference");
         check(!source.contains("Exact("), "rule 4: a function whose name ends in Exact");
-        check(source.chars().allMatch(c -> c == '\n' || c >= 32 && c < 127), "rule 4: a sign that is none of 32 to 126");
+        boolean plain = source.chars().allMatch(c -> c == '\n' || c >= 32 && c < 127);
+        check(plain, "rule 4: a sign that is none of 32 to 126");
         Matcher library = Pattern.compile("\\b(Math|Integer|Long|System|Arrays)\\.(\\w+)").matcher(source);
         Set<String> fine = Set.of("Math.abs", "Math.min", "Math.max", "Integer.bitCount", "Integer.MIN_VALUE",
             "Long.MIN_VALUE", "System.arraycopy");
@@ -157,6 +164,32 @@ public final class LanguageTest {
         allCalls(hands);
         long more = allocated() - ahead;
         check(more < 2048, "rule 12: its calls take " + more + " bytes");
+    }
+
+    /** Rule 7: for any arguments in any state, also past the 512 calls that an object is made for. */
+    private static void neverThrows() {
+        int[] numbers = {Integer.MIN_VALUE, -1001, -49, -4, -3, -2, -1, 0, 1, 2, 3, 4, 5, 9, 11, 12, 13, 47, 48, 49, 61,
+            100, 101, 255, 256, 999, 1000, 1001, Integer.MAX_VALUE - 1, Integer.MAX_VALUE};
+        Random dice = new Random(7);
+        for (int object = 0; object < 40; object++) {
+            MarkedHands hands = new MarkedHands();
+            int reach = object % 2 == 0 ? numbers.length : 5;
+            for (int i = 0; i < 3000; i++) {
+                oneCall(hands, FACE[dice.nextInt(FACE.length)], numbers, reach, dice);
+            }
+        }
+    }
+
+    private static void oneCall(MarkedHands hands, Method call, int[] numbers, int reach, Random dice) {
+        Object[] args = new Object[call.getParameterCount()];
+        for (int i = 0; i < args.length; i++) {
+            args[i] = reach == numbers.length ? numbers[dice.nextInt(reach)] : dice.nextInt(reach) - 1;
+        }
+        try {
+            call.invoke(hands, args);
+        } catch (ReflectiveOperationException e) {
+            check(false, "rule 7: " + call.getName() + Arrays.toString(args) + " threw " + e.getCause());
+        }
     }
 
     private static long allocated() {

@@ -1,4 +1,6 @@
 import java.lang.reflect.Method;
+import java.util.ArrayList;
+import java.util.List;
 import java.util.regex.Matcher;
 import java.util.regex.Pattern;
 
@@ -6,27 +8,46 @@ import java.util.regex.Pattern;
  * Runs of calls told as text, a row "name(1, 2) = answer" each, on one object. An answer is a number or a
  * word: NONE, BAD, NOT, FULL (of a call that answers a long, as the least long and so much more), NULL,
  * INDEX, CAST, STORE, SIZE, LEAST (the least int). "name(..)" alone is called, and its answer is free.
- * "a/b" behind a call "name(..)" whose last number would say above or below asks for both.
+ * "a/b" behind a call "name(..)" whose last number would say above or below asks for both. "9 x name(..)"
+ * is called nine times. type("..") makes GRADES that text.
  */
 final class Runs {
-    private static final Pattern ROW = Pattern.compile("(\\w+)\\(([^)]*)\\)\\s*(?:=\\s*(\\S+))?");
+    private static final Pattern ROW = Pattern.compile("(?:(\\d+) x )?(\\w+)\\(([^)]*)\\)\\s*(?:=\\s*(\\S+))?");
     private static int rows = 0;
     private static int wrong = 0;
 
     private final String name;
     private final MarkedHands hands = new MarkedHands();
-    private int calls = 0;
+    private final List<String> answers = new ArrayList<>();
 
     private Runs(String name) {
         this.name = name;
     }
 
     static void run(String name, String text) {
+        new Runs(name).rows(text);
+    }
+
+    /** What a new object answers, call by call. */
+    static List<String> answers(String name, String text) {
         Runs run = new Runs(name);
+        run.rows(text);
+        return run.answers;
+    }
+
+    static void check(boolean right, String what) {
+        rows++;
+        if (!right) {
+            wrong++;
+            System.out.println(what);
+        }
+    }
+
+    private void rows(String text) {
         for (String row : text.split("\n")) {
             String plain = row.replaceAll("#.*", "").trim();
             if (!plain.isEmpty()) {
-                run.row(plain);
+                row(plain);
             }
         }
     }
@@ -43,17 +64,22 @@ final class Runs {
         if (!m.matches()) {
             throw new IllegalArgumentException("no such row: " + row);
         }
-        String args = m.group(2).trim();
-        String want = m.group(3);
-        if (m.group(1).equals("type") && args.startsWith("\"")) {
+        int times = m.group(1) == null ? 1 : Integer.parseInt(m.group(1));
+        for (int i = 0; i < times; i++) {
+            row(m.group(2), m.group(3).trim(), m.group(4));
+        }
+    }
+
+    private void row(String method, String args, String want) {
+        if (method.equals("type") && args.startsWith("\"")) {
             typeText(args.substring(1, args.length() - 1));
         } else if (want != null && want.contains("/")) {
             String[] sides = want.split("/");
             String ahead = args.isEmpty() ? "" : args + ", ";
-            call(m.group(1), ahead + "0", sides[0]);
-            call(m.group(1), ahead + "1", sides[1]);
+            call(method, ahead + "0", sides[0]);
+            call(method, ahead + "1", sides[1]);
         } else {
-            call(m.group(1), args, want);
+            call(method, args, want);
         }
     }
 
@@ -66,8 +92,7 @@ final class Runs {
     }
 
     private void call(String method, String args, String want) {
-        calls++;
-        if (calls > 512) {
+        if (answers.size() >= 512) {
             throw new IllegalArgumentException(name + ": an object has 512 calls");
         }
         String[] words = args.isEmpty() ? new String[0] : args.split("\\s*,\\s*");
@@ -82,11 +107,9 @@ final class Runs {
         } catch (ReflectiveOperationException e) {
             got = "" + e.getCause();
         }
-        rows++;
-        if (want != null && !got.equals(answer(want, face.getReturnType() == long.class))) {
-            wrong++;
-            System.out.println(name + ": " + method + "(" + args + ") answered " + got + ", due is " + want);
-        }
+        answers.add(got);
+        check(want == null || got.equals(answer(want, face.getReturnType() == long.class)),
+            name + ": " + method + "(" + args + ") answered " + got + ", due is " + want);
     }
 
     private static Method find(String name, int parameters) {
