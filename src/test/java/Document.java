@@ -6,26 +6,30 @@ import java.util.ArrayList;
 import java.util.List;
 
 /**
- * The document's words, by promise (0: what stands ahead of promise 1, from part 1 on), and which of them a test has
- * named: so a sentence that no test is about comes to light, and a test of words that are not there too.
+ * The document's words from its first line on, by promise (0: what stands ahead of promise 1), and which of them a
+ * test has named: so a sentence that no test is about comes to light, and a test of words that are not there too.
  */
 final class Document {
-    static final int PROMISES = 35;
+    static final int NOT_PROMISED = 36;
+    private static final int PROMISES = 35;
     private static final Path PLACE = Path.of("../shared/DOC.md");
 
-    private final String[] parts = new String[PROMISES + 1];
-    private final boolean[][] named = new boolean[PROMISES + 1][];
+    private final String[] parts = new String[NOT_PROMISED + 1];
+    private final boolean[][] named = new boolean[NOT_PROMISED + 1][];
 
     Document() {
         String text = words(read());
-        int start = text.indexOf("======== 1 MARKERS");
-        for (int promise = 0; promise <= PROMISES; promise++) {
-            String behind = promise < PROMISES ? "## Promise " + (promise + 1) + ":" : "## Not promised";
-            int end = text.indexOf(behind);
+        int start = 0;
+        for (int promise = 0; promise <= NOT_PROMISED; promise++) {
+            int end = promise == NOT_PROMISED ? text.length() : text.indexOf(headBehind(promise));
             parts[promise] = behindSignature(text.substring(start, end).trim());
             named[promise] = new boolean[parts[promise].length()];
             start = end;
         }
+    }
+
+    private static String headBehind(int promise) {
+        return promise < PROMISES ? "## Promise " + (promise + 1) + ":" : "## Not promised";
     }
 
     private static String behindSignature(String part) {
@@ -61,7 +65,7 @@ final class Document {
     /** The runs of words that no test has named, with their promise. */
     List<String> unnamed() {
         List<String> all = new ArrayList<>();
-        for (int promise = 0; promise <= PROMISES; promise++) {
+        for (int promise = 0; promise <= NOT_PROMISED; promise++) {
             StringBuilder run = new StringBuilder();
             for (int i = 0; i <= named[promise].length; i++) {
                 if (i < named[promise].length && !named[promise][i]) {

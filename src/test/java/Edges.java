@@ -1,6 +1,10 @@
+import java.util.HashSet;
+import java.util.Set;
+
 /** Tests of single sentences: each names a promise (0: what stands ahead of promise 1) and its words. */
 final class Edges {
     private static final Document DOCUMENT = new Document();
+    private static final Set<String> LAWS = new HashSet<>();
     private static int edges = 0;
 
     private Edges() {
@@ -28,6 +32,14 @@ final class Edges {
     static void check(int promise, String words, boolean right, String what) {
         String title = title(promise, words);
         Runs.check(right, title + ": " + what);
+    }
+
+    /** A law that the words ahead of promise 1 lay down for all states; one test, in however many it is looked at. */
+    static void law(String words, boolean right, String what) {
+        if (LAWS.add(words)) {
+            title(0, words);
+        }
+        Runs.check(right, "\"" + words + "\": " + what);
     }
 
     /** Words that name no boundary; the tests of what they say stand elsewhere. */
