@@ -15,6 +15,8 @@ public final class MarkedHands {
     private static final int TOP_SHIFT = 1000;
     private static final int TOP_TIME = 999;
     private static final int TOP_DEALT = 7;
+    private static final int LEAST_INT = 1 << 31;
+    private static final long LEAST_LONG = 1L << 63;
 
     private static final int NULL_FOUND = 1;
     private static final int INDEX_FOUND = 2;
@@ -389,12 +391,12 @@ public final class MarkedHands {
 
     public int get(int s, int type, int i) {
         if (!isSheet(s) || !isType(type)) {
-            return Integer.MIN_VALUE;
+            return LEAST_INT;
         }
         int hindrance = sheets.hindrance(s, type, i);
         if (hindrance != 0) {
             finding = hindrance;
-            return Integer.MIN_VALUE;
+            return LEAST_INT;
         }
         return sheets.item(s, i);
     }
@@ -550,7 +552,7 @@ public final class MarkedHands {
     }
 
     private static long asLong(int refusal) {
-        return Long.MIN_VALUE - refusal;
+        return LEAST_LONG - refusal;
     }
 
     /** Of a fraction in lowest terms the part above (what = 0) or below (1). */

@@ -319,6 +319,22 @@ final class DoubtsEdges {
             tied(0) = 47                   # the last
             tied(-1) = 1
             """);
+        Edges.edge(0, words, """
+            mark(3, 1, 50, 0) = 1
+            mark(5, 2, 50, 0) = 2
+            price(0, 0) = 1                # a mark by it, without any so far, joins no two bundles
+            price(3, 0) = 1
+            price(1, 99) = 1
+            price(2, 98) = 1
+            tied(-1) = 98
+            tied(0) = 14                   # script 3 by marker 2
+            tied(1) = NONE
+            mark(7, 0, 50, 0) = 3
+            tied(-1) = 0                   # now it has one, and marks scripts 3 and 5 for nothing
+            tied(0) = 12
+            tied(1) = 20
+            tied(2) = NONE
+            """);
     }
 
     private static void doubt() {
